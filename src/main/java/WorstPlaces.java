@@ -1031,8 +1031,20 @@ public final class WorstPlaces {
             counts[next] = counted;
             targets[next] = target;
             many = next + 1;
-            refresh();
+            if (limit == NONE) {
+                putLatest(place, year, counted, target);
+            }
             return next;
+        }
+
+        /** The latest count is so whatever was ahead of it; a strike may change any. */
+        private void putLatest(int place, int year, int counted, int target) {
+            boolean isCount = isWithin(place, 0, PLACES_MOST - 1) && isWithin(year, 0, YEARS - 1);
+            if (target == NONE && isCount) {
+                table[place * YEARS + year] = counted;
+            } else {
+                refresh();
+            }
         }
 
         void limitTo(int n) {

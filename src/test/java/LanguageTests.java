@@ -136,6 +136,10 @@ public final class LanguageTests {
             if (line.startsWith("import ") && !line.equals("import java.util.NoSuchElementException;")) {
                 say("rule 4: " + line);
             }
+            boolean made = line.matches(".*\\bnew\\b.*") && !line.matches("\\s*(private |final |.*throw ).*");
+            if (made) {
+                say("rule 12: made in a call: " + line);
+            }
             if (line.contains("throw new") && !line.contains("IndexOutOfBoundsException(") && !line.contains("NoSuchElementException(")) {
                 say("rule 6: " + line);
             }

@@ -254,7 +254,27 @@ public final class PromiseTests {
         due("4: what below", x.fault(-1), -1);
         x.text(0);
         due("4: the latest", x.fault(0), 0);
+        cutOff();
         due("4: the latest has no place", x.fault(1), -1);
+    }
+
+    /** What stands on the tape behind the text is none of it. */
+    private static void cutOff() {
+        String[] fed = {"take 1<=2;", "place ab 1;", "place a 12;", "place a 0  ;"};
+        int[] cuts = {7, 7, 9, 10};
+        for (int i = 0; i < fed.length; i++) {
+            WorstPlaces x = new WorstPlaces();
+            feedAll(x, fed[i]);
+            due("4: cut off " + fed[i], x.text(cuts[i]), -1);
+            due("4: fault cut off " + fed[i], x.fault(0), 1);
+            due("4: place cut off " + fed[i], x.fault(1), cuts[i]);
+        }
+        WorstPlaces x = new WorstPlaces();
+        due("4: a rule cut off", tell(x, "take not 1+2*"), -1);
+        due("4: another rule", tell(x, "place a 0;take one>0;"), 2);
+        due("4: another rule, knots", x.number(4), 3);
+        notes(x, 0, 0, "111");
+        due("4: another rule, taken", x.taken(3), 1);
     }
 
     private static void faultInRules() {
@@ -525,6 +545,8 @@ public final class PromiseTests {
         isSpan("13: 18 of 19", road("kind a 1" + ones + "kind b 18" + ZEROS + "place p 0;"), 0, 0, 0, 0, 10);
         String tie = "kind a 1" + twos + "kind b 1" + ZEROS + "kind c 18" + ones + "place p 0;";
         isSpan("13: of several the least number", road(tie), 0, 0, 0, 10, 20);
+        String first = "kind c 18" + ones + "kind a 1" + twos + "kind b 1" + ZEROS + "place p 0;";
+        isSpan("13: each once", road(first), 0, 0, 0, 10, 20);
         isSpan("13: no kinds", road("place p 0;"), 0, 0, 0, -2, -2);
     }
 
@@ -549,6 +571,8 @@ public final class PromiseTests {
         due("14: what 2", x.worse(0, 1, 0, 5, 2), -1);
         due("14: years", x.worse(0, 1, 0, 6, 0), -1);
         WorstPlaces same = road("kind a 1 0 0 0 0 0 0 0 0 0 2;kind b 1 1 1 0 0 0 0 0 0 0 0;place p 0;place q 0;");
+        WorstPlaces down = road("kind a 1 0 0 0 0 0 0 0 0 0 2;kind b 2 0 0 0 0 0 0 0 0 0 1;place p 0;place q 0;");
+        isWorse("14: the first kind above", down, 0, 1, 2, 9);
         isWorse("14: equal means aren't above", same, 0, 1, 0, 1);
     }
 
@@ -566,6 +590,12 @@ public final class PromiseTests {
         due("15: least int", x.taken(Integer.MIN_VALUE), -1);
         x.strike(2);
         due("15: one isn't known", x.taken(3), 2);
+        WorstPlaces any = road("place a 0;place b 0;place c 0;place d 0;take 1;");
+        notes(any, 0, 0, ".11");
+        notes(any, 1, 0, "1.1");
+        notes(any, 2, 0, "11.");
+        notes(any, 3, 0, "111");
+        due("15: all three must be known", any.taken(3), 8);
         due("15: without a rule", road("place a 0;").taken(3), 0);
     }
 
@@ -620,6 +650,15 @@ public final class PromiseTests {
         takes("100*100*100*100*100*100*(100*100*100*100*100*100)>0 or 1", false);
         takes("100*100*100*100*100*100*0=0", true);
         takes("999*999*999*999>0", true);
+        takes("(256*256*256*256)*(256*256*256*256)=0", false);
+        takes("(128*128*128*128*128)*(512*512*512*4)=0", false);
+        takes("not ".repeat(63) + "0", true);
+        takes("not ".repeat(63) + "1", false);
+        takes("not(".repeat(8) + "not ".repeat(55) + "0" + ")".repeat(8), true);
+        takes("not(".repeat(8) + "not ".repeat(54) + "0" + ")".repeat(8), false);
+        takes("(1<2)=1 and(1<=2)=1 and(1=1)=1 and(1<>2)=1 and(2>=1)=1 and(2>1)=1", true);
+        takes("(2<1)=0 and(2<=1)=0 and(1=2)=0 and(1<>1)=0 and(1>=2)=0 and(1>2)=0", true);
+        takes("(not 0)=1 and(not 7)=0 and(0 or 0)=0 and(7 and 0)=0", true);
         takes("999*999*999*999*2>0", false);
     }
 
@@ -636,6 +675,7 @@ public final class PromiseTests {
         isLaw("16: county 3", x, 3, 200, 2000, 2400, 27000, -12);
         isLaw("16: county 9", x, 9, 200, 2000, 3600, 27000, 25);
         isLaw("16: county 3 again", x, 3, 200, 2000, 2400, 27000, -12);
+        isLaw("16: far below 0", road(kind + "take sum=1;"), 0, 6, 2000, 6, 810, -1250);
         isLaw("16: an error takes none", road(kind + "take 9/(one-one)+1;"), 0, 0, 2000, 0, 0, 0);
         isLaw("16: without a rule", road(kind), 0, 0, 2000, 0, 0, 0);
         isLaw("16: all zero", road("kind a 5" + ZEROS + "kind b 3" + ZEROS + "take 1;"), 9, 8000, 8000, 0, 0, 0);
@@ -702,6 +742,10 @@ public final class PromiseTests {
         notes(last, 0, 0, "000321");
         notes(last, 1, 0, "444222");
         isFall("17: before of the land is 0", last, 1, 12, 6, 0, 0, 0, 6000, 0, 6000, 12000);
+        WorstPlaces ahead = road("place b 0;place a 0 box 3;");
+        notes(ahead, 0, 0, "211100");
+        notes(ahead, 1, 0, "444222");
+        isFall("17: the land from the first place on", ahead, 1, 12, 6, 0, 9000, 0, -3000, 0, -3000, 12000);
         WorstPlaces zero = road("place a 0 box 3;place b 0;");
         notes(zero, 0, 0, "444222");
         notes(zero, 1, 0, "000321");
@@ -810,6 +854,9 @@ public final class PromiseTests {
         WorstPlaces two = road("place a 0 box 2;");
         notes(two, 0, 0, "1030");
         isHouse("20: one year alone", two, 100, -200, 1, 0, 3);
+        WorstPlaces zeros = road("place a 0 box 3;");
+        notes(zeros, 0, 0, "001999");
+        isHouse("20: three years", zeros, -800, -2600, 1, 2, 3);
         WorstPlaces last = road("place a 0 box 8;");
         notes(last, 0, 7, "42");
         isHouse("20: box 8", last, 50, 50, 1, 7, 8);
@@ -925,6 +972,14 @@ public final class PromiseTests {
         WorstPlaces close = road("kind a 1 0 0 0 0 0 0 0 0 0 0;place p 0;place q 0 box 1;");
         notes(close, 0, 0, "0");
         due("23: the same isn't above", close.never(), 0);
+        WorstPlaces begin = road(kinds + "place p 0 box 2;place q 0;");
+        notes(begin, 0, 6, "1");
+        notes(begin, 1, 6, "2");
+        due("23: a box at the first place", begin.never(), 2);
+        WorstPlaces nothing = road("kind a 1" + ZEROS + "place p 0;place q 0 box 1;");
+        notes(nothing, 0, 0, "5");
+        notes(nothing, 1, 0, "0");
+        due("23: 0 by 0 beside 0", nothing.never(), 0);
         WorstPlaces without = road(kinds + "place p 0;place q 0 box 8;");
         notes(without, 0, 6, "333");
         notes(without, 1, 6, "111");
