@@ -1,12 +1,5 @@
-import java.nio.charset.StandardCharsets;
-import java.util.NoSuchElementException;
-
 /** Each promise of the document, by answers worked out by hand. */
 public final class PromiseTests {
-    private static final int NO = Integer.MIN_VALUE;
-    private static final String ROAD = "kind low 3 0 0 0 0 0 1 1 1 1 2;kind bad 1 1 1 2 2 2 3 3 3 4 4;"
-        + "place p 0 box 3;place q 0;place r 1 lot box 3 works 4 5;place s 1 lot;take sum>=6;saves 5 2;";
-    private static final String ZEROS = " 0 0 0 0 0 0 0 0 0 0;";
     private static int wrong = 0;
     private static int asked = 0;
 
@@ -58,50 +51,6 @@ public final class PromiseTests {
         due(what, got ? 1 : 0, want ? 1 : 0);
     }
 
-    private static int feedAll(WorstPlaces x, String text) {
-        byte[] bytes = text.getBytes(StandardCharsets.ISO_8859_1);
-        int fed = 0;
-        for (int i = 0; i < bytes.length; i += 20) {
-            int[] w = new int[5];
-            for (int k = 0; k < 20; k++) {
-                w[k / 4] = w[k / 4] << 8 | (i + k < bytes.length ? bytes[i + k] & 255 : 32);
-            }
-            fed = x.feed(w[0], w[1], w[2], w[3], w[4]);
-        }
-        return fed;
-    }
-
-    private static int tell(WorstPlaces x, String text) {
-        feedAll(x, text);
-        return x.text(text.length());
-    }
-
-    private static WorstPlaces road(String text) {
-        WorstPlaces x = new WorstPlaces();
-        if (tell(x, text) < 0) {
-            wrong++;
-            System.out.println("has fault " + x.fault(0) + " at " + x.fault(1) + ": " + text);
-        }
-        return x;
-    }
-
-    /** One count a sign from a year on; a dot where none is known. */
-    private static void notes(WorstPlaces x, int place, int from, String counts) {
-        for (int i = 0; i < counts.length(); i++) {
-            if (counts.charAt(i) != '.') {
-                x.note(place, from + i, counts.charAt(i) - '0');
-            }
-        }
-    }
-
-    private static int letters(String word) {
-        int v = 0;
-        for (int i = 0; i < 6; i++) {
-            v = v << 5 | (i < word.length() ? word.charAt(i) - 96 : 0);
-        }
-        return v;
-    }
-
     private static void newObject() {
         WorstPlaces x = new WorstPlaces();
         int[] numbers = {0, 0, 0, 0, 0, 5, 0};
@@ -117,7 +66,7 @@ public final class PromiseTests {
         due("1: poles(0)", x.poles(0, 1, 2), 0);
         due("1: poles(1)", x.poles(1, 0, 0), -1);
         due("1: never", x.never(), 0);
-        due("1: draws", x.draws(0, 1, 0), NO);
+        due("1: draws", x.draws(0, 1, 0), Roads.NO);
         due("1: lot", x.lot(0, 3, 3), 0);
         due("1: chose", x.chose(3, 1), 0);
         due("1: coin", x.coin(0, 0), false);
@@ -146,15 +95,15 @@ public final class PromiseTests {
     }
 
     private static void text() {
-        WorstPlaces x = road(ROAD);
+        WorstPlaces x = Roads.road(Roads.ROAD);
         x.note(0, 0, 1);
         x.coin(0, 9);
         x.known(0);
-        due("3: feed", feedAll(x, "place z 1;"), 20);
+        due("3: feed", Roads.feedAll(x, "place z 1;"), 20);
         due("3: too many", x.text(21), -2);
         due("3: below 0", x.text(-1), -2);
         due("3: the least int", x.text(Integer.MIN_VALUE), -2);
-        due("3: the tape stays", feedAll(x, " "), 40);
+        due("3: the tape stays", Roads.feedAll(x, " "), 40);
         due("3: a fault", x.text(9), -1);
         due("3: the tape is empty behind a fault", x.text(1), -2);
         due("3: places stay", x.number(1), 4);
@@ -162,9 +111,9 @@ public final class PromiseTests {
         due("3: known stays", x.number(3), 0);
         due("3: coin stays", x.look(0, 5), 9);
         due("3: the rule stays", x.number(4), 3);
-        due("3: names stay", x.named(1, letters("s")), 3);
-        due("3: no name of the faulty one", x.named(1, letters("z")), -1);
-        due("3: a text", tell(x, "place z 1;place y 2;"), 2);
+        due("3: names stay", x.named(1, Roads.letters("s")), 3);
+        due("3: no name of the faulty one", x.named(1, Roads.letters("z")), -1);
+        due("3: a text", Roads.tell(x, "place z 1;place y 2;"), 2);
         due("3: the tape is empty", x.text(1), -2);
         due("3: no notes", x.number(2), 0);
         due("3: no coin", x.look(0, 5), 0);
@@ -174,29 +123,29 @@ public final class PromiseTests {
         due("3: moves as without", x.number(6), 0);
         x.note(0, 0, 1);
         due("3: all known", x.number(3), 1);
-        feedAll(x, "place z 1;");
+        Roads.feedAll(x, "place z 1;");
         due("3: text(0)", x.text(0), 0);
         due("3: text(0) empties the tape", x.text(10), -2);
         due("3: text(0) has no places", x.number(1), 0);
-        due("3: blanks alone", tell(x, " \n  \n"), 0);
-        due("3: blanks anywhere", tell(x, "\nplace\na\n0\nbox 3 ; take(one)>=2 ;\n "), 2);
-        due("3: no blanks needed", tell(x, "place a0box3lot;saves 1 2;take 1or 0;"), 3);
+        due("3: blanks alone", Roads.tell(x, " \n  \n"), 0);
+        due("3: blanks anywhere", Roads.tell(x, "\nplace\na\n0\nbox 3 ; take(one)>=2 ;\n "), 2);
+        due("3: no blanks needed", Roads.tell(x, "place a0box3lot;saves 1 2;take 1or 0;"), 3);
         due("3: no blanks, box", x.look(0, 2), 3);
         due("3: no blanks, knots", x.number(4), 3);
-        due("3: names of kinds and places", tell(x, "kind a 1" + ZEROS + "place a 1;"), 2);
+        due("3: names of kinds and places", Roads.tell(x, "kind a 1" + Roads.ZEROS + "place a 1;"), 2);
     }
 
     private static void fails(String text, int fault, int place) {
         WorstPlaces x = new WorstPlaces();
         String shown = text.length() > 60 ? text.substring(0, 60) + ".." : text;
-        due("4: text " + shown, tell(x, text), -1);
+        due("4: text " + shown, Roads.tell(x, text), -1);
         due("4: fault of " + shown, x.fault(0), fault);
         due("4: place of " + shown, x.fault(1), place);
     }
 
     private static void fine(String text, int lines) {
         WorstPlaces x = new WorstPlaces();
-        due("4: text " + text, tell(x, text), lines);
+        due("4: text " + text, Roads.tell(x, text), lines);
         due("4: no fault in " + text, x.fault(0), 0);
         due("4: no place in " + text, x.fault(1), -1);
     }
@@ -236,7 +185,7 @@ public final class PromiseTests {
         fails("kind a 1 0 0 0 0 0 0 0 0 0 10;", 2, 27);
         fails("kind a 1 0 0 0 0 0 0 0 0 0;", 1, 26);
         fails("kind a 1 0 0 0 0 0 0 0 0 0 0 0;", 1, 29);
-        fails("kind a 1" + ZEROS + "kind a 1" + ZEROS, 3, 34);
+        fails("kind a 1" + Roads.ZEROS + "kind a 1" + Roads.ZEROS, 3, 34);
         fails("saves 1;", 1, 7);
         fails("saves 10 0;", 2, 6);
         fails("saves 9 10;", 2, 8);
@@ -244,10 +193,10 @@ public final class PromiseTests {
         fails("take 1;take", 3, 7);
         fine("place a 0 works 0 0 lot box 8;", 1);
         fine("place abcdef 009;", 1);
-        fine("kind a 99 9 9 9 9 9 9 9 9 9 9;kind b 1" + ZEROS, 2);
+        fine("kind a 99 9 9 9 9 9 9 9 9 9 9;kind b 1" + Roads.ZEROS, 2);
         fine("saves 9 9;place lots 0;place boxes 1;", 3);
         WorstPlaces x = new WorstPlaces();
-        tell(x, "kind");
+        Roads.tell(x, "kind");
         x.text(-1);
         due("4: -2 is not the latest", x.fault(1), 4);
         due("4: another what", x.fault(2), -1);
@@ -264,16 +213,16 @@ public final class PromiseTests {
         int[] cuts = {7, 7, 9, 10};
         for (int i = 0; i < fed.length; i++) {
             WorstPlaces x = new WorstPlaces();
-            feedAll(x, fed[i]);
+            Roads.feedAll(x, fed[i]);
             due("4: cut off " + fed[i], x.text(cuts[i]), -1);
             due("4: fault cut off " + fed[i], x.fault(0), 1);
             due("4: place cut off " + fed[i], x.fault(1), cuts[i]);
         }
         WorstPlaces x = new WorstPlaces();
-        due("4: a rule cut off", tell(x, "take not 1+2*"), -1);
-        due("4: another rule", tell(x, "place a 0;take one>0;"), 2);
+        due("4: a rule cut off", Roads.tell(x, "take not 1+2*"), -1);
+        due("4: another rule", Roads.tell(x, "place a 0;take one>0;"), 2);
         due("4: another rule, knots", x.number(4), 3);
-        notes(x, 0, 0, "111");
+        Roads.notes(x, 0, 0, "111");
         due("4: another rule, taken", x.taken(3), 1);
     }
 
@@ -318,7 +267,7 @@ public final class PromiseTests {
 
     private static void faultOfLimits() {
         String more = "+1".repeat(31);
-        WorstPlaces x = road("take not 1" + more + ";");
+        WorstPlaces x = Roads.road("take not 1" + more + ";");
         due("4: 64 knots", x.number(4), 64);
         fails("take 1" + more + "+1;", 2, 5 + 64);
         fails("take not not 1" + more + ";", 2, 14 + 61);
@@ -330,7 +279,7 @@ public final class PromiseTests {
         fails("take not 1" + more + ") ;", 1, 10 + 62);
         StringBuilder kinds = new StringBuilder();
         for (char c = 'a'; c <= 'e'; c++) {
-            kinds.append("kind ").append(c).append(" 1").append(ZEROS);
+            kinds.append("kind ").append(c).append(" 1").append(Roads.ZEROS);
         }
         fine(kinds.toString(), 5);
         fails(kinds + "kind a", 2, kinds.length());
@@ -343,49 +292,40 @@ public final class PromiseTests {
     }
 
     private static void named() {
-        WorstPlaces x = road("kind a 1" + ZEROS + "kind zzzzzz 1" + ZEROS + "place b 0;place a 0;place abcdef 0;");
+        WorstPlaces x = Roads.road("kind a 1" + Roads.ZEROS + "kind zzzzzz 1" + Roads.ZEROS
+            + "place b 0;place a 0;place abcdef 0;");
         due("5: kind a", x.named(0, 1 << 25), 0);
-        due("5: kind zzzzzz", x.named(0, letters("zzzzzz")), 1);
-        due("5: place a", x.named(1, letters("a")), 1);
-        due("5: place abcdef", x.named(1, letters("abcdef")), 2);
-        due("5: place abcde", x.named(1, letters("abcde")), -1);
-        due("5: kind b", x.named(0, letters("b")), -1);
-        due("5: what 2", x.named(2, letters("a")), -1);
-        due("5: what -1", x.named(-1, letters("a")), -1);
+        due("5: kind zzzzzz", x.named(0, Roads.letters("zzzzzz")), 1);
+        due("5: place a", x.named(1, Roads.letters("a")), 1);
+        due("5: place abcdef", x.named(1, Roads.letters("abcdef")), 2);
+        due("5: place abcde", x.named(1, Roads.letters("abcde")), -1);
+        due("5: kind b", x.named(0, Roads.letters("b")), -1);
+        due("5: what 2", x.named(2, Roads.letters("a")), -1);
+        due("5: what -1", x.named(-1, Roads.letters("a")), -1);
         due("5: no letters", x.named(1, 0), -1);
         due("5: bits above", x.named(1, 1 << 30 | 1 << 25), -1);
         due("5: low letters", x.named(1, 1), -1);
     }
 
-    private static int looked(WorstPlaces x, int place, int what) {
-        try {
-            return x.look(place, what);
-        } catch (IndexOutOfBoundsException e) {
-            return -1001;
-        } catch (NoSuchElementException e) {
-            return -1002;
-        }
-    }
-
     private static void look() {
-        WorstPlaces x = road("place a 9 works 0 7;place b 0 box 8 lot;");
+        WorstPlaces x = Roads.road("place a 9 works 0 7;place b 0 box 8 lot;");
         int[] first = {9, 0, 0, 0, 7, 0};
         int[] second = {0, 1, 8, -1, 0, 31};
         x.coin(1, 31);
         for (int what = 0; what < 6; what++) {
-            due("6: look(0, " + what + ")", looked(x, 0, what), first[what]);
-            due("6: look(1, " + what + ")", looked(x, 1, what), second[what]);
+            due("6: look(0, " + what + ")", Roads.looked(x, 0, what), first[what]);
+            due("6: look(1, " + what + ")", Roads.looked(x, 1, what), second[what]);
         }
-        due("6: no such place", looked(x, 2, 0), -1001);
-        due("6: place below", looked(x, -1, 0), -1001);
-        due("6: no such what", looked(x, 0, 6), -1002);
-        due("6: what below", looked(x, 0, -1), -1002);
-        due("6: neither", looked(x, 2, 6), -1001);
-        due("6: a new object", looked(new WorstPlaces(), 0, 0), -1001);
+        due("6: no such place", Roads.looked(x, 2, 0), Roads.NO_PLACE);
+        due("6: place below", Roads.looked(x, -1, 0), Roads.NO_PLACE);
+        due("6: no such what", Roads.looked(x, 0, 6), Roads.NO_WHAT);
+        due("6: what below", Roads.looked(x, 0, -1), Roads.NO_WHAT);
+        due("6: neither", Roads.looked(x, 2, 6), Roads.NO_PLACE);
+        due("6: a new object", Roads.looked(new WorstPlaces(), 0, 0), Roads.NO_PLACE);
     }
 
     private static void note() {
-        WorstPlaces x = road("place a 0;place b 0;");
+        WorstPlaces x = Roads.road("place a 0;place b 0;");
         due("7: first", x.note(0, 0, 0), 0);
         due("7: second", x.note(1, 8, 9), 1);
         due("7: no place", x.note(2, 0, 0), -1);
@@ -403,7 +343,7 @@ public final class PromiseTests {
     }
 
     private static void strike() {
-        WorstPlaces x = road("place a 0;");
+        WorstPlaces x = Roads.road("place a 0;");
         due("8: no note", x.strike(0), -1);
         x.note(0, 0, 4);
         x.note(0, 0, 5);
@@ -430,7 +370,7 @@ public final class PromiseTests {
     }
 
     private static void known() {
-        WorstPlaces x = road("place a 0;");
+        WorstPlaces x = Roads.road("place a 0;");
         x.note(0, 0, 4);
         x.note(0, 0, 5);
         x.strike(0);
@@ -455,7 +395,7 @@ public final class PromiseTests {
     }
 
     private static void count() {
-        WorstPlaces x = road("place a 0;place b 0;");
+        WorstPlaces x = Roads.road("place a 0;place b 0;");
         x.note(0, 8, 0);
         x.note(1, 0, 9);
         due("10: 0 is a count", x.count(0, 8), 0);
@@ -469,7 +409,7 @@ public final class PromiseTests {
 
     /** Three kinds of means 1, 5, 15 and weights 1, 2, 3. */
     private static WorstPlaces threeKinds() {
-        return road("kind a 1 0 0 0 0 0 0 0 0 0 1;kind b 2 0 0 0 0 0 1 1 1 1 1;kind c 3 1 1 1 1 1 2 2 2 2 2;"
+        return Roads.road("kind a 1 0 0 0 0 0 0 0 0 0 1;kind b 2 0 0 0 0 0 1 1 1 1 1;kind c 3 1 1 1 1 1 2 2 2 2 2;"
             + "place p 0;place q 0;");
     }
 
@@ -515,9 +455,9 @@ public final class PromiseTests {
         due("12: no place", x.rate(2, 0, 5, 0), -1);
         due("12: years", x.rate(0, 0, 6, 0), -1);
         due("12: years backwards", x.rate(0, 5, 4, 0), -1);
-        WorstPlaces zero = road("kind a 7" + ZEROS + "place p 0;");
+        WorstPlaces zero = Roads.road("kind a 7" + Roads.ZEROS + "place p 0;");
         isRate("12: 0 in least terms", zero, 0, 3, 8, 0, 1);
-        isRate("12: no kinds", road("place p 0;"), 0, 0, 0, 0, 0);
+        isRate("12: no kinds", Roads.road("place p 0;"), 0, 0, 0, 0, 0);
     }
 
     private static void isSpan(String what, WorstPlaces x, int place, int a, int b, int low, int high) {
@@ -541,13 +481,13 @@ public final class PromiseTests {
         due("13: years", x.span(0, 0, 6, 0), -1);
         String ones = " 1 1 1 1 1 1 1 1 1 1;";
         String twos = " 2 2 2 2 2 2 2 2 2 2;";
-        isSpan("13: 19 of 20", road("kind a 1" + ones + "kind b 19" + ZEROS + "place p 0;"), 0, 0, 0, 0, 0);
-        isSpan("13: 18 of 19", road("kind a 1" + ones + "kind b 18" + ZEROS + "place p 0;"), 0, 0, 0, 0, 10);
-        String tie = "kind a 1" + twos + "kind b 1" + ZEROS + "kind c 18" + ones + "place p 0;";
-        isSpan("13: of several the least number", road(tie), 0, 0, 0, 10, 20);
-        String first = "kind c 18" + ones + "kind a 1" + twos + "kind b 1" + ZEROS + "place p 0;";
-        isSpan("13: each once", road(first), 0, 0, 0, 10, 20);
-        isSpan("13: no kinds", road("place p 0;"), 0, 0, 0, -2, -2);
+        isSpan("13: 19 of 20", Roads.road("kind a 1" + ones + "kind b 19" + Roads.ZEROS + "place p 0;"), 0, 0, 0, 0, 0);
+        isSpan("13: 18 of 19", Roads.road("kind a 1" + ones + Roads.same("b", 18, 0) + "place p 0;"), 0, 0, 0, 0, 10);
+        String tie = "kind a 1" + twos + "kind b 1" + Roads.ZEROS + "kind c 18" + ones + "place p 0;";
+        isSpan("13: of several the least number", Roads.road(tie), 0, 0, 0, 10, 20);
+        String first = "kind c 18" + ones + "kind a 1" + twos + "kind b 1" + Roads.ZEROS + "place p 0;";
+        isSpan("13: each once", Roads.road(first), 0, 0, 0, 10, 20);
+        isSpan("13: no kinds", Roads.road("place p 0;"), 0, 0, 0, -2, -2);
     }
 
     private static void isWorse(String what, WorstPlaces x, int one, int other, long above, long below) {
@@ -570,17 +510,17 @@ public final class PromiseTests {
         due("14: no first place", x.worse(-1, 1, 0, 5, 0), -1);
         due("14: what 2", x.worse(0, 1, 0, 5, 2), -1);
         due("14: years", x.worse(0, 1, 0, 6, 0), -1);
-        WorstPlaces same = road("kind a 1 0 0 0 0 0 0 0 0 0 2;kind b 1 1 1 0 0 0 0 0 0 0 0;place p 0;place q 0;");
-        WorstPlaces down = road("kind a 1 0 0 0 0 0 0 0 0 0 2;kind b 2 0 0 0 0 0 0 0 0 0 1;place p 0;place q 0;");
+        WorstPlaces same = Roads.road("kind a 1 0 0 0 0 0 0 0 0 0 2;kind b 1 1 1 0 0 0 0 0 0 0 0;place p 0;place q 0;");
+        WorstPlaces down = Roads.road("kind a 1 0 0 0 0 0 0 0 0 0 2;kind b 2 0 0 0 0 0 0 0 0 0 1;place p 0;place q 0;");
         isWorse("14: the first kind above", down, 0, 1, 2, 9);
         isWorse("14: equal means aren't above", same, 0, 1, 0, 1);
     }
 
     private static void taken() {
-        WorstPlaces x = road("place a 0;place b 1;place c 0;take one=1 and two=2 and three=3 or county*sum>20;");
-        notes(x, 0, 0, "123");
-        notes(x, 1, 0, "999.99999");
-        notes(x, 2, 5, ".123");
+        WorstPlaces x = Roads.road("place a 0;place b 1;place c 0;take one=1 and two=2 and three=3 or county*sum>20;");
+        Roads.notes(x, 0, 0, "123");
+        Roads.notes(x, 1, 0, "999.99999");
+        Roads.notes(x, 2, 5, ".123");
         due("15: year 3", x.taken(3), 3);
         due("15: year 4", x.taken(4), 0);
         due("15: year 7", x.taken(7), 2);
@@ -590,18 +530,18 @@ public final class PromiseTests {
         due("15: least int", x.taken(Integer.MIN_VALUE), -1);
         x.strike(2);
         due("15: one isn't known", x.taken(3), 2);
-        WorstPlaces any = road("place a 0;place b 0;place c 0;place d 0;take 1;");
-        notes(any, 0, 0, ".11");
-        notes(any, 1, 0, "1.1");
-        notes(any, 2, 0, "11.");
-        notes(any, 3, 0, "111");
+        WorstPlaces any = Roads.road("place a 0;place b 0;place c 0;place d 0;take 1;");
+        Roads.notes(any, 0, 0, ".11");
+        Roads.notes(any, 1, 0, "1.1");
+        Roads.notes(any, 2, 0, "11.");
+        Roads.notes(any, 3, 0, "111");
         due("15: all three must be known", any.taken(3), 8);
-        due("15: without a rule", road("place a 0;").taken(3), 0);
+        due("15: without a rule", Roads.road("place a 0;").taken(3), 0);
     }
 
     private static void takes(String rule, boolean want) {
-        WorstPlaces x = road("place a 7;take " + rule + ";");
-        notes(x, 0, 0, "352");
+        WorstPlaces x = Roads.road("place a 7;take " + rule + ";");
+        Roads.notes(x, 0, 0, "352");
         due("15: " + rule, x.taken(3), want ? 1 : 0);
     }
 
@@ -670,21 +610,23 @@ public final class PromiseTests {
 
     private static void law() {
         String kind = "kind a 2 0 1 2 3 4 5 6 7 8 9;";
-        isLaw("16: two nines", road(kind + "take one=9 and two=9;"), 0, 20, 2000, 450, 2700, 40);
-        WorstPlaces x = road(kind + "take one=county;");
+        isLaw("16: two nines", Roads.road(kind + "take one=9 and two=9;"), 0, 20, 2000, 450, 2700, 40);
+        WorstPlaces x = Roads.road(kind + "take one=county;");
         isLaw("16: county 3", x, 3, 200, 2000, 2400, 27000, -12);
         isLaw("16: county 9", x, 9, 200, 2000, 3600, 27000, 25);
         isLaw("16: county 3 again", x, 3, 200, 2000, 2400, 27000, -12);
-        isLaw("16: far below 0", road(kind + "take sum=1;"), 0, 6, 2000, 6, 810, -1250);
-        isLaw("16: an error takes none", road(kind + "take 9/(one-one)+1;"), 0, 0, 2000, 0, 0, 0);
-        isLaw("16: without a rule", road(kind), 0, 0, 2000, 0, 0, 0);
-        isLaw("16: all zero", road("kind a 5" + ZEROS + "kind b 3" + ZEROS + "take 1;"), 9, 8000, 8000, 0, 0, 0);
-        isLaw("16: the order counts", road("kind a 1 0 0 0 0 0 0 0 0 0 1;take one<two and two=three;"), 0, 9, 1000, 18, 27, 85);
+        isLaw("16: far below 0", Roads.road(kind + "take sum=1;"), 0, 6, 2000, 6, 810, -1250);
+        isLaw("16: an error takes none", Roads.road(kind + "take 9/(one-one)+1;"), 0, 0, 2000, 0, 0, 0);
+        isLaw("16: without a rule", Roads.road(kind), 0, 0, 2000, 0, 0, 0);
+        WorstPlaces zero = Roads.road(Roads.same("a", 5, 0) + Roads.same("b", 3, 0) + "take 1;");
+        isLaw("16: all zero", zero, 9, 8000, 8000, 0, 0, 0);
+        WorstPlaces order = Roads.road("kind a 1 0 0 0 0 0 0 0 0 0 1;take one<two and two=three;");
+        isLaw("16: the order counts", order, 0, 9, 1000, 18, 27, 85);
         due("16: county 10", x.law(10, 0), -1);
         due("16: county below", x.law(-1, 0), -1);
         due("16: what 5", x.law(0, 5), -1);
         due("16: what below", x.law(0, -1), -1);
-        tell(x, "kind a 1" + ZEROS + "take 1;");
+        Roads.tell(x, "kind a 1" + Roads.ZEROS + "take 1;");
         isLaw("16: of the new text", x, 3, 1000, 1000, 0, 0, 0);
     }
 
@@ -695,37 +637,37 @@ public final class PromiseTests {
     }
 
     private static void fall() {
-        WorstPlaces x = road(ROAD);
-        notes(x, 0, 0, "123111");
-        notes(x, 1, 0, "101110");
-        notes(x, 2, 0, "222101");
-        notes(x, 3, 0, "212112");
+        WorstPlaces x = Roads.road(Roads.ROAD);
+        Roads.notes(x, 0, 0, "123111");
+        Roads.notes(x, 1, 0, "101110");
+        Roads.notes(x, 2, 0, "222101");
+        Roads.notes(x, 3, 0, "212112");
         isFall("17: p", x, 0, 6, 3, -1500, 1072, 0, 3428, 286, 3142, 7500);
         isFall("17: r", x, 2, 6, 2, -930, 990, 2970, 970, 0, 970, 6930);
-        due("17: no box", x.fall(1, 0), NO);
-        due("17: no place", x.fall(4, 0), NO);
-        due("17: place below", x.fall(-1, 0), NO);
-        due("17: what 9", x.fall(0, 9), NO);
-        due("17: what below", x.fall(0, -1), NO);
+        due("17: no box", x.fall(1, 0), Roads.NO);
+        due("17: no place", x.fall(4, 0), Roads.NO);
+        due("17: place below", x.fall(-1, 0), Roads.NO);
+        due("17: what 9", x.fall(0, 9), Roads.NO);
+        due("17: what below", x.fall(0, -1), Roads.NO);
         x.known(23);
         due("17: the land without one not known", x.fall(0, 3), 0);
         x.known(5);
-        due("17: not all known", x.fall(0, 0), NO);
+        due("17: not all known", x.fall(0, 0), Roads.NO);
         for (int from = 1; from <= 8; from++) {
-            WorstPlaces y = road("place a 0 box " + from + ";");
-            notes(y, 0, 0, "111111111");
-            due("17: box from " + from, y.fall(0, 0), from >= 3 && from <= 6 ? 3 : NO);
+            WorstPlaces y = Roads.road("place a 0 box " + from + ";");
+            Roads.notes(y, 0, 0, "111111111");
+            due("17: box from " + from, y.fall(0, 0), from >= 3 && from <= 6 ? 3 : Roads.NO);
         }
-        WorstPlaces none = road("kind a 1" + ZEROS + "place a 0 box 3;");
-        notes(none, 0, 0, "000000");
+        WorstPlaces none = Roads.road("kind a 1" + Roads.ZEROS + "place a 0 box 3;");
+        Roads.notes(none, 0, 0, "000000");
         isFall("17: all zero", none, 0, 0, 0, 0, 0, 0, 0, 0, 0, 0);
     }
 
     /** No kind deals these counts, so BACK is 1000 BEFORE. */
     private static WorstPlaces pair(String works, String next) {
-        WorstPlaces x = road("kind z 1 9 9 9 9 9 9 9 9 9 9;place a 0 box 3" + works + ";place b 0" + next + ";");
-        notes(x, 0, 0, "444222");
-        notes(x, 1, 0, "112321");
+        WorstPlaces x = Roads.road("kind z 1 9 9 9 9 9 9 9 9 9 9;place a 0 box 3" + works + ";place b 0" + next + ";");
+        Roads.notes(x, 0, 0, "444222");
+        Roads.notes(x, 1, 0, "112321");
         return x;
     }
 
@@ -738,31 +680,31 @@ public final class PromiseTests {
         WorstPlaces x = pair("", " box 6");
         x.strike(11);
         isFall("17: the next isn't known", x, 0, 12, 6, 0, 0, 0, 6000, 0, 6000, 12000);
-        WorstPlaces last = road("place b 0;place a 0 box 3;");
-        notes(last, 0, 0, "000321");
-        notes(last, 1, 0, "444222");
+        WorstPlaces last = Roads.road("place b 0;place a 0 box 3;");
+        Roads.notes(last, 0, 0, "000321");
+        Roads.notes(last, 1, 0, "444222");
         isFall("17: before of the land is 0", last, 1, 12, 6, 0, 0, 0, 6000, 0, 6000, 12000);
-        WorstPlaces ahead = road("place b 0;place a 0 box 3;");
-        notes(ahead, 0, 0, "211100");
-        notes(ahead, 1, 0, "444222");
+        WorstPlaces ahead = Roads.road("place b 0;place a 0 box 3;");
+        Roads.notes(ahead, 0, 0, "211100");
+        Roads.notes(ahead, 1, 0, "444222");
         isFall("17: the land from the first place on", ahead, 1, 12, 6, 0, 9000, 0, -3000, 0, -3000, 12000);
-        WorstPlaces zero = road("place a 0 box 3;place b 0;");
-        notes(zero, 0, 0, "444222");
-        notes(zero, 1, 0, "000321");
+        WorstPlaces zero = Roads.road("place a 0 box 3;place b 0;");
+        Roads.notes(zero, 0, 0, "444222");
+        Roads.notes(zero, 1, 0, "000321");
         isFall("17: all that is there has moved", zero, 0, 12, 6, 0, 0, 0, 6000, 6000, 0, 12000);
     }
 
     private static void lot() {
-        WorstPlaces x = road("place a 1 lot box 4;place b 1 lot;place c 1 lot box 7;place d 1 lot box 6;"
+        WorstPlaces x = Roads.road("place a 1 lot box 4;place b 1 lot;place c 1 lot box 7;place d 1 lot box 6;"
             + "place e 2 lot;place f 1 box 4;place g 1;place h 1 lot;");
-        notes(x, 0, 1, "333111");
-        notes(x, 1, 1, "111112");
-        notes(x, 2, 1, "221111");
-        notes(x, 3, 1, "999000");
-        notes(x, 4, 1, "999000");
-        notes(x, 5, 1, "999000");
-        notes(x, 6, 1, "999000");
-        notes(x, 7, 1, "99900.");
+        Roads.notes(x, 0, 1, "333111");
+        Roads.notes(x, 1, 1, "111112");
+        Roads.notes(x, 2, 1, "221111");
+        Roads.notes(x, 3, 1, "999000");
+        Roads.notes(x, 4, 1, "999000");
+        Roads.notes(x, 5, 1, "999000");
+        Roads.notes(x, 6, 1, "999000");
+        Roads.notes(x, 7, 1, "99900.");
         int[] want = {11, 2, 1, 2};
         for (int what = 0; what < 4; what++) {
             due("18: lot(1, 4, " + what + ")", x.lot(1, 4, what), want[what]);
@@ -773,44 +715,45 @@ public final class PromiseTests {
         due("18: one without", x.lot(2, 4, 3), 1);
         due("18: county 9", x.lot(9, 6, 3), 0);
         due("18: not all known", x.lot(1, 3, 2), 0);
-        due("18: county 10", x.lot(10, 4, 0), NO);
-        due("18: county below", x.lot(-1, 4, 0), NO);
-        due("18: year 2", x.lot(1, 2, 0), NO);
-        due("18: year 7", x.lot(1, 7, 0), NO);
-        due("18: what 4", x.lot(1, 4, 4), NO);
-        due("18: what below", x.lot(1, 4, -1), NO);
-        WorstPlaces less = road("place a 0 lot box 3;place b 0 lot box 3;place c 0 lot;");
-        notes(less, 0, 0, "111112");
-        notes(less, 1, 0, "111111");
-        notes(less, 2, 0, "111110");
+        due("18: county 10", x.lot(10, 4, 0), Roads.NO);
+        due("18: county below", x.lot(-1, 4, 0), Roads.NO);
+        due("18: year 2", x.lot(1, 2, 0), Roads.NO);
+        due("18: year 7", x.lot(1, 7, 0), Roads.NO);
+        due("18: what 4", x.lot(1, 4, 4), Roads.NO);
+        due("18: what below", x.lot(1, 4, -1), Roads.NO);
+        WorstPlaces less = Roads.road("place a 0 lot box 3;place b 0 lot box 3;place c 0 lot;");
+        Roads.notes(less, 0, 0, "111112");
+        Roads.notes(less, 1, 0, "111111");
+        Roads.notes(less, 2, 0, "111110");
         due("18: below 0, above", less.lot(0, 3, 0), -3);
         due("18: below 0, below", less.lot(0, 3, 1), 2);
-        WorstPlaces same = road("place a 0 lot box 3;place b 0 lot;place c 0 lot;");
-        notes(same, 0, 0, "111111");
-        notes(same, 1, 0, "222222");
-        notes(same, 2, 0, "000000");
+        WorstPlaces same = Roads.road("place a 0 lot box 3;place b 0 lot;place c 0 lot;");
+        Roads.notes(same, 0, 0, "111111");
+        Roads.notes(same, 1, 0, "222222");
+        Roads.notes(same, 2, 0, "000000");
         due("18: no more, above", same.lot(0, 3, 0), 0);
         due("18: no more, below", same.lot(0, 3, 1), 1);
     }
 
     private static void chose() {
-        WorstPlaces x = road("place a 1 box 5;place b 2 box 5;place c 3 lot box 5;place d 1 box 4;place e 1;place f 0 box 5;");
-        notes(x, 0, 2, "321100");
-        notes(x, 1, 2, "000010");
-        notes(x, 2, 2, "999000");
-        notes(x, 3, 1, "1111111");
-        notes(x, 4, 2, "999000");
-        notes(x, 5, 2, "999.00");
+        WorstPlaces x = Roads.road("place a 1 box 5;place b 2 box 5;place c 3 lot box 5;place d 1 box 4;"
+            + "place e 1;place f 0 box 5;");
+        Roads.notes(x, 0, 2, "321100");
+        Roads.notes(x, 1, 2, "000010");
+        Roads.notes(x, 2, 2, "999000");
+        Roads.notes(x, 3, 1, "1111111");
+        Roads.notes(x, 4, 2, "999000");
+        Roads.notes(x, 5, 2, "999.00");
         due("19: above", x.chose(5, 0), 2);
         due("19: below", x.chose(5, 1), 1);
         due("19: no fall, above", x.chose(4, 0), 0);
         due("19: no fall, below", x.chose(4, 1), 1);
         due("19: none, above", x.chose(3, 0), 0);
         due("19: none, below", x.chose(3, 1), 0);
-        due("19: year 2", x.chose(2, 0), NO);
-        due("19: year 7", x.chose(7, 0), NO);
-        due("19: what 2", x.chose(5, 2), NO);
-        due("19: what below", x.chose(5, -1), NO);
+        due("19: year 2", x.chose(2, 0), Roads.NO);
+        due("19: year 7", x.chose(7, 0), Roads.NO);
+        due("19: what 2", x.chose(5, 2), Roads.NO);
+        due("19: what below", x.chose(5, -1), Roads.NO);
         x.note(0, 2, 0);
         due("19: a half, above", x.chose(5, 0), 1);
         due("19: a half, below", x.chose(5, 1), 2);
@@ -826,51 +769,51 @@ public final class PromiseTests {
     }
 
     private static void house() {
-        WorstPlaces x = road("place a 0 box 3;place b 0;");
-        notes(x, 0, 0, "123111");
+        WorstPlaces x = Roads.road("place a 0 box 3;place b 0;");
+        Roads.notes(x, 0, 0, "123111");
         isHouse("20: one year", x, 66, 0, 1, 2, 3);
         x.note(0, 3, 2);
         isHouse("20: another", x, 66, -100, 1, 2, 4);
-        due("20: no box", x.house(1, 0), NO);
-        due("20: no place", x.house(2, 0), NO);
-        due("20: place below", x.house(-1, 0), NO);
-        due("20: what 5", x.house(0, 5), NO);
-        due("20: what below", x.house(0, -1), NO);
-        WorstPlaces zero = road("place a 0 box 2;");
-        notes(zero, 0, 0, "001");
-        due("20: sums of 0 ahead", zero.house(0, 0), NO);
-        notes(zero, 0, 0, "03");
+        due("20: no box", x.house(1, 0), Roads.NO);
+        due("20: no place", x.house(2, 0), Roads.NO);
+        due("20: place below", x.house(-1, 0), Roads.NO);
+        due("20: what 5", x.house(0, 5), Roads.NO);
+        due("20: what below", x.house(0, -1), Roads.NO);
+        WorstPlaces zero = Roads.road("place a 0 box 2;");
+        Roads.notes(zero, 0, 0, "001");
+        due("20: sums of 0 ahead", zero.house(0, 0), Roads.NO);
+        Roads.notes(zero, 0, 0, "03");
         isHouse("20: cut towards 0", zero, 66, 66, 1, 1, 2);
-        notes(zero, 0, 2, "8");
+        Roads.notes(zero, 0, 2, "8");
         isHouse("20: below 0, cut towards 0", zero, -166, -166, 1, 1, 2);
-        WorstPlaces tie = road("place a 0 box 3;");
-        notes(tie, 0, 0, "222111111");
+        WorstPlaces tie = Roads.road("place a 0 box 3;");
+        Roads.notes(tie, 0, 0, "222111111");
         isHouse("20: of several the first", tie, 50, 50, 1, 0, 3);
-        WorstPlaces longer = road("place a 0 box 3;");
-        notes(longer, 0, 0, "055.21");
+        WorstPlaces longer = Roads.road("place a 0 box 3;");
+        Roads.notes(longer, 0, 0, "055.21");
         isHouse("20: one behind the other", longer, 80, 40, 1, 1, 5);
-        notes(longer, 0, 0, ".1");
+        Roads.notes(longer, 0, 0, ".1");
         isHouse("20: lengths", longer, 80, -200, 1, 2, 5);
-        WorstPlaces two = road("place a 0 box 2;");
-        notes(two, 0, 0, "1030");
+        WorstPlaces two = Roads.road("place a 0 box 2;");
+        Roads.notes(two, 0, 0, "1030");
         isHouse("20: one year alone", two, 100, -200, 1, 0, 3);
-        WorstPlaces zeros = road("place a 0 box 3;");
-        notes(zeros, 0, 0, "001999");
+        WorstPlaces zeros = Roads.road("place a 0 box 3;");
+        Roads.notes(zeros, 0, 0, "001999");
         isHouse("20: three years", zeros, -800, -2600, 1, 2, 3);
-        WorstPlaces last = road("place a 0 box 8;");
-        notes(last, 0, 7, "42");
+        WorstPlaces last = Roads.road("place a 0 box 8;");
+        Roads.notes(last, 0, 7, "42");
         isHouse("20: box 8", last, 50, 50, 1, 7, 8);
-        WorstPlaces first = road("place a 0 box 1;");
-        notes(first, 0, 0, "4.......4");
+        WorstPlaces first = Roads.road("place a 0 box 1;");
+        Roads.notes(first, 0, 0, "4.......4");
         isHouse("20: box 1", first, 0, 0, 1, 0, 8);
-        WorstPlaces three = road("place a 0 box 3;");
-        notes(three, 0, 0, "12.34");
+        WorstPlaces three = Roads.road("place a 0 box 3;");
+        Roads.notes(three, 0, 0, "12.34");
         three.note(0, 2, 9);
         isHouse("20: unlike years", three, 66, -300, 1, 2, 3);
     }
 
     private static void coin() {
-        WorstPlaces x = road("place a 0;place b 0;");
+        WorstPlaces x = Roads.road("place a 0;place b 0;");
         due("21: coin", x.coin(1, 99), true);
         due("21: look", x.look(1, 5), 99);
         due("21: 0", x.coin(0, 0), true);
@@ -891,12 +834,12 @@ public final class PromiseTests {
 
     /** Kinds that deal one face alone make rates of 1000, 2000, 3000 and 1000. */
     private static WorstPlaces fourRates(String saves) {
-        WorstPlaces x = road("kind a 1 1 1 1 1 1 1 1 1 1 1;kind b 1 2 2 2 2 2 2 2 2 2 2;kind c 1 3 3 3 3 3 3 3 3 3 3;"
+        WorstPlaces x = Roads.road(Roads.same("a", 1, 1) + Roads.same("b", 1, 2) + Roads.same("c", 1, 3)
             + "place p 0;place q 0;place r 0;place s 0;" + saves);
-        notes(x, 0, 0, "1");
-        notes(x, 1, 0, "2");
-        notes(x, 2, 0, "3");
-        notes(x, 3, 0, "1");
+        Roads.notes(x, 0, 0, "1");
+        Roads.notes(x, 1, 0, "2");
+        Roads.notes(x, 2, 0, "3");
+        Roads.notes(x, 3, 0, "1");
         return x;
     }
 
@@ -924,7 +867,8 @@ public final class PromiseTests {
         isPoles("22: 5 and 0 without", plain, 1, 0, 4, 1500, 0);
         WorstPlaces none = fourRates("saves 0 0;");
         isPoles("22: nothing is saved", none, 3, 0, 7, 0, 0);
-        WorstPlaces cut = road("kind a 1 1 1 1 1 1 1 1 1 1 1;kind b 2 0 0 0 0 0 0 0 0 0 1;place p 0;place q 0;saves 7 3;");
+        WorstPlaces cut = Roads.road("kind a 1 1 1 1 1 1 1 1 1 1 1;kind b 2 0 0 0 0 0 0 0 0 0 1;"
+            + "place p 0;place q 0;saves 7 3;");
         // (10 + 2 * 1) by 10 * 3 is 0.4; with a 1 it is (10 * 10 + 2 * 1) by 10 * 12, 850 thousandths.
         cut.note(1, 5, 1);
         isPoles("22: cut", cut, 1, 0, 2, 595, 0);
@@ -937,7 +881,7 @@ public final class PromiseTests {
     }
 
     private static void polesOfYears() {
-        WorstPlaces x = road("kind a 1 1 1 1 1 1 1 1 1 1 1;kind b 1 2 2 2 2 2 2 2 2 2 2;place p 0;place q 0;");
+        WorstPlaces x = Roads.road("kind a 1 1 1 1 1 1 1 1 1 1 1;kind b 1 2 2 2 2 2 2 2 2 2 2;place p 0;place q 0;");
         x.known(-1);
         isPoles("22: without counts", x, 1, 0, 1, 0, 0);
         x.note(0, 2, 2);
@@ -955,12 +899,12 @@ public final class PromiseTests {
         WorstPlaces x = fourRates("take sum>=6;");
         due("23: no boxes", x.never(), 0);
         String kinds = "kind a 1 1 1 1 1 1 1 1 1 1 1;kind b 1 2 2 2 2 2 2 2 2 2 2;kind c 1 3 3 3 3 3 3 3 3 3 3;";
-        x = road(kinds + "place p 0;place q 0 box 8;place r 0 box 1;place s 0;place t 0;take sum>=9;");
-        notes(x, 0, 6, "222");
-        notes(x, 1, 6, "111");
-        notes(x, 2, 6, "333");
-        notes(x, 3, 6, "333");
-        notes(x, 4, 6, "111");
+        x = Roads.road(kinds + "place p 0;place q 0 box 8;place r 0 box 1;place s 0;place t 0;take sum>=9;");
+        Roads.notes(x, 0, 6, "222");
+        Roads.notes(x, 1, 6, "111");
+        Roads.notes(x, 2, 6, "333");
+        Roads.notes(x, 3, 6, "333");
+        Roads.notes(x, 4, 6, "111");
         due("23: above some, not taken", x.never(), 1);
         x.note(3, 8, 9);
         due("23: 0 by 0 isn't above", x.never(), 1);
@@ -969,20 +913,20 @@ public final class PromiseTests {
         due("23: taken no more", x.never(), 9);
         x.known(0);
         due("23: nothing known", x.never(), 0);
-        WorstPlaces close = road("kind a 1 0 0 0 0 0 0 0 0 0 0;place p 0;place q 0 box 1;");
-        notes(close, 0, 0, "0");
+        WorstPlaces close = Roads.road("kind a 1 0 0 0 0 0 0 0 0 0 0;place p 0;place q 0 box 1;");
+        Roads.notes(close, 0, 0, "0");
         due("23: the same isn't above", close.never(), 0);
-        WorstPlaces begin = road(kinds + "place p 0 box 2;place q 0;");
-        notes(begin, 0, 6, "1");
-        notes(begin, 1, 6, "2");
+        WorstPlaces begin = Roads.road(kinds + "place p 0 box 2;place q 0;");
+        Roads.notes(begin, 0, 6, "1");
+        Roads.notes(begin, 1, 6, "2");
         due("23: a box at the first place", begin.never(), 2);
-        WorstPlaces nothing = road("kind a 1" + ZEROS + "place p 0;place q 0 box 1;");
-        notes(nothing, 0, 0, "5");
-        notes(nothing, 1, 0, "0");
+        WorstPlaces nothing = Roads.road("kind a 1" + Roads.ZEROS + "place p 0;place q 0 box 1;");
+        Roads.notes(nothing, 0, 0, "5");
+        Roads.notes(nothing, 1, 0, "0");
         due("23: 0 by 0 beside 0", nothing.never(), 0);
-        WorstPlaces without = road(kinds + "place p 0;place q 0 box 8;");
-        notes(without, 0, 6, "333");
-        notes(without, 1, 6, "111");
+        WorstPlaces without = Roads.road(kinds + "place p 0;place q 0 box 8;");
+        Roads.notes(without, 0, 6, "333");
+        Roads.notes(without, 1, 6, "111");
         due("23: without a rule", without.never(), 1);
     }
 
@@ -992,7 +936,7 @@ public final class PromiseTests {
     }
 
     private static void draws() {
-        WorstPlaces x = road(ROAD);
+        WorstPlaces x = Roads.road(Roads.ROAD);
         isDraws("24: one", x, 1, 1, 0, 0);
         isDraws("24: two", x, 1, 2, 1, 3);
         isDraws("24: seven", x, 7, 1, 0, 0);
@@ -1000,20 +944,20 @@ public final class PromiseTests {
         isDraws("24: five hundred", x, 12345, 500, 107, 16);
         isDraws("24: seed 0", x, 0, 500, 112, 39);
         isDraws("24: the greatest seed", x, 2147483647, 500, 116, 40);
-        due("24: none", x.draws(1, 0, 0), NO);
-        due("24: 501", x.draws(1, 501, 0), NO);
-        due("24: seed below", x.draws(-1, 1, 0), NO);
-        due("24: the least seed", x.draws(Integer.MIN_VALUE, 1, 0), NO);
-        due("24: what 2", x.draws(1, 1, 2), NO);
-        due("24: what below", x.draws(1, 1, -1), NO);
-        due("24: no kinds", road("take 1;").draws(1, 1, 0), NO);
-        isDraws("24: without a rule", road("kind a 1" + ZEROS), 1, 500, 0, 0);
-        isDraws("24: county 0", road("kind a 1" + ZEROS + "take county=0;"), 1, 500, 500, 0);
-        isDraws("24: errors", road("kind a 1" + ZEROS + "take 1/one;"), 1, 500, 0, 0);
+        due("24: none", x.draws(1, 0, 0), Roads.NO);
+        due("24: 501", x.draws(1, 501, 0), Roads.NO);
+        due("24: seed below", x.draws(-1, 1, 0), Roads.NO);
+        due("24: the least seed", x.draws(Integer.MIN_VALUE, 1, 0), Roads.NO);
+        due("24: what 2", x.draws(1, 1, 2), Roads.NO);
+        due("24: what below", x.draws(1, 1, -1), Roads.NO);
+        due("24: no kinds", Roads.road("take 1;").draws(1, 1, 0), Roads.NO);
+        isDraws("24: without a rule", Roads.road("kind a 1" + Roads.ZEROS), 1, 500, 0, 0);
+        isDraws("24: county 0", Roads.road("kind a 1" + Roads.ZEROS + "take county=0;"), 1, 500, 500, 0);
+        isDraws("24: errors", Roads.road("kind a 1" + Roads.ZEROS + "take 1/one;"), 1, 500, 0, 0);
     }
 
     private static void number() {
-        WorstPlaces x = road(ROAD);
+        WorstPlaces x = Roads.road(Roads.ROAD);
         x.note(0, 0, 0);
         x.strike(0);
         x.known(1);
@@ -1023,9 +967,9 @@ public final class PromiseTests {
         }
         due("25: what 7", x.number(7), -1);
         due("25: what below", x.number(-1), -1);
-        due("25: knots without brackets", road("take (one+(2))*((3))<>1;").number(4), 7);
-        due("25: not and or", road("take not one and two or not three;").number(4), 7);
-        WorstPlaces y = road("saves 9 8;");
+        due("25: knots without brackets", Roads.road("take (one+(2))*((3))<>1;").number(4), 7);
+        due("25: not and or", Roads.road("take not one and two or not three;").number(4), 7);
+        WorstPlaces y = Roads.road("saves 9 8;");
         due("25: s", y.number(5), 9);
         due("25: m", y.number(6), 8);
     }
